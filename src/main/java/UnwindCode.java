@@ -44,10 +44,10 @@ public final class UnwindCode {
     private static final int CATCH = 14;
     private static final int LASTLY = 15;
 
-    // The ops of join that use a register.
+    // The ops of join that its tests ask for.
     private static final int JOIN_IF = IF - SEQ;
     private static final int JOIN_CATCH = CATCH - SEQ;
-    private static final int JOIN_LAST = LASTLY - SEQ;
+    private static final int JOIN_LASTLY = LASTLY - SEQ;
 
     // The ways in which a statement ends.
     private static final int NORMALLY = 0;
@@ -100,8 +100,8 @@ public final class UnwindCode {
 
     public UnwindCode() {
         for (int p = 0; p < PROCEDURES; p++) {
+            // A new array holds SKIP everywhere.
             size[p] = 1;
-            kind[p * MOST_STATEMENTS] = SKIP;
         }
     }
 
@@ -136,7 +136,7 @@ public final class UnwindCode {
     }
 
     public int join(int op, int r) {
-        if (op < 0 || op > JOIN_LAST) {
+        if (op < 0 || op > JOIN_LASTLY) {
             return BAD_ARG;
         }
         if ((op == JOIN_IF || op == JOIN_CATCH) && !isRegister(r)) {
@@ -438,7 +438,6 @@ public final class UnwindCode {
     private void waitFor(int at) {
         frameStatement[frames] = at;
         frameEnding[frames] = NOT_YET;
-        frameNumber[frames] = 0;
         frames++;
     }
 

@@ -198,6 +198,13 @@ public final class PromiseTest {
         x.load(1, -1);
         x.run(0);
         outsDue(x, -2, -1);
+        push(x, 1);
+        x.loop(2);
+        x.simple(OUT, 0, 0);
+        seq(x);
+        x.procedure(0);
+        due("what comes after a loop with 0", x.run(0), UnwindCode.DONE);
+        outsDue(x, -2);
     }
 
     /** Three loops around one jump; registers 1 to 3 are put out behind the inner, middle and outer loop. */
@@ -622,6 +629,10 @@ public final class PromiseTest {
         due("out(297)", x.out(297), 0);
         due("begun of the last part", x.begun(0, 2), 0);
         due("begun of the catching part", x.begun(0, 4), 0);
+        due("a run after it", x.run(1), UnwindCode.DONE);
+        due("steps()", x.steps(), 1);
+        due("begun(0, 0)", x.begun(0, 0), 0);
+        outsDue(x);
     }
 
     private static void deep() {
@@ -639,8 +650,15 @@ public final class PromiseTest {
         due("begun of the call", x.begun(0, 0), 9);
         due("thrown()", x.thrown(), 0);
         outsDue(x);
-        due("a run after it", x.run(1), UnwindCode.DONE);
+        x.simple(THROW, 0, 0);
+        x.procedure(1);
+        x.load(0, 12);
+        due("a run after it", x.run(1), UnwindCode.THROWN);
+        due("thrown()", x.thrown(), 12);
+        due("steps()", x.steps(), 1);
         due("deepest()", x.deepest(), 0);
+        due("begun(0, 0)", x.begun(0, 0), 0);
+        outsDue(x);
     }
 
     /** Procedure 2 calls itself as often as register 0 says, and procedure 1 adds calls one after another. */
