@@ -126,9 +126,11 @@ public final class TermsBoundaryTest extends BoundaryCases {
             due("7 - 7", calculated(x, sub(0, 0), 7, 1), 0);
             due("7 * 7", calculated(x, mul(0, 0), 7, 1), 49);
         });
-        test("Terms: add, sub, mul change register r and not register s", x -> {
+        test("Terms: add, sub, mul change register r alone, and put nothing out", x -> {
             for (Code statement : List.of(add(3, 0), sub(3, 0), mul(3, 0))) {
                 due("register 0", calculated(x, statement, 6, 9), 6);
+                due("registers 1 and 2", List.of(x.register(1), x.register(2)), List.of(9, 0));
+                due("outs", x.outs(), 0);
             }
         });
     }
