@@ -7,9 +7,12 @@ import java.nio.file.Files;
 import java.nio.file.Path;
 import java.util.ArrayList;
 import java.util.Arrays;
+import java.util.HashMap;
 import java.util.HashSet;
 import java.util.List;
+import java.util.Map;
 import java.util.Set;
+import java.util.TreeMap;
 import java.util.TreeSet;
 import java.util.regex.Matcher;
 import java.util.regex.Pattern;
@@ -27,6 +30,8 @@ public final class FaceTest {
     private static final int MOST_PARAMETERS = 7;
     private static final int MOST_FIELDS = 40;
     private static final int MOST_LINES = 60;
+    private static final int MOST_CALLS_DEEP = 6;
+    private static final Pattern CALL = Pattern.compile("\\b(\\w+)\\(");
 
     private static int wrong = 0;
 
@@ -83,7 +88,8 @@ public final class FaceTest {
                 hold(Modifier.isPrivate(modifiers), field.getName() + " is public or private");
             }
             if (Modifier.isStatic(modifiers)) {
-                hold(Modifier.isFinal(modifiers) && !field.getType().isArray(), field.getName() + " is a constant");
+                hold(Modifier.isFinal(modifiers), field.getName() + " is a constant");
+                hold(field.getType() == int.class || field.getType() == long.class, field.getName() + " is an int or long");
             } else {
                 fields++;
             }
@@ -104,9 +110,12 @@ public final class FaceTest {
                 && Modifier.isPublic(constructors[0].getModifiers()), "there is one public constructor without arguments");
     }
 
-    private static void checkText() throws IOException {
+    private static String code() throws IOException {
         String text = Files.readString(Path.of("src/main/java/UnwindCode.java"));
-        String code = text.replaceAll("(?s)/\\*.*?\\*/", "").replaceAll("//.*", "");
+        return text.replaceAll("(?s)/\\*.*?\\*/", "").replaceAll("//.*", "");
+    }
+
+    private static void checkWords(String code) {
         Matcher word = Pattern.compile("\\b(import|package|throw|throws|try|catch|finally|synchronized|assert|instanceof"
                 + "|float|double|null|Math|Integer|Long|String|System|Arrays|Object|enum|interface|record|extends"
                 + "|implements|getClass|hashCode|equals|toString)\\b|->|::|\"|\\[\\]\\[\\]").matcher(code);
@@ -117,20 +126,91 @@ public final class FaceTest {
             hold(!line.contains("new ") || line.matches(" {4}private final int\\[\\] \\w+ = new int\\[[A-Z_]+\\];"),
                     "arrays are made by fields with a constant length: " + line.strip());
         }
-        Matcher body = Pattern.compile("(?m)^ {4}(?:public|private)[^;=]*\\{\\n(?s:.*?)^ {4}\\}$").matcher(code);
-        int bodies = 0;
-        while (body.find()) {
-            bodies++;
-            hold(body.group().lines().count() <= MOST_LINES, "methods are short: " + body.group().lines().findFirst());
+    }
+
+    private static void checkLoops(String code) {
+        Pattern counted = Pattern.compile(" *for \\(int (\\w+) = [^;]+; \\1 (<|>=) [^;]+; \\1(\\+\\+|--)\\) \\{");
+        for (String line : code.split("\n")) {
+            if (line.matches(".*\\b(for|while|do)\\b.*")) {
+                hold(counted.matcher(line).matches(), "a loop has a counter against a bound: " + line.strip());
+            }
         }
-        hold(bodies == UnwindCode.class.getDeclaredMethods().length + 1, "every method was looked at: " + bodies);
+    }
+
+    private static Map<String, String> bodies(String code) {
+        Map<String, String> bodies = new TreeMap<>();
+        Matcher body = Pattern.compile("(?m)^ {4}(?:public|private)[^;=(]*?(\\w+)\\([^;=]*?\\) \\{\\n((?s:.*?))^ {4}\\}$")
+                .matcher(code);
+        while (body.find()) {
+            bodies.put(body.group(1), body.group(2));
+            hold(body.group().lines().count() <= MOST_LINES, body.group(1) + " is short");
+        }
+        hold(bodies.size() == UnwindCode.class.getDeclaredMethods().length + 1, "every method was looked at: " + bodies.keySet());
+        return bodies;
+    }
+
+    private static String arguments(String body, int from) {
+        int open = 1;
+        int end = from;
+        while (open > 0) {
+            open += body.charAt(end) == '(' ? 1 : body.charAt(end) == ')' ? -1 : 0;
+            end++;
+        }
+        return body.substring(from, end - 1);
+    }
+
+    private static Set<String> callsIn(String text, Set<String> methods) {
+        Set<String> calls = new TreeSet<>();
+        Matcher call = CALL.matcher(text);
+        while (call.find()) {
+            if (methods.contains(call.group(1))) {
+                calls.add(call.group(1));
+            }
+        }
+        return calls;
+    }
+
+    /** How many methods lie on the longest way of calls from this one; path holds those that lead to it. */
+    private static int callsDeep(String method, Map<String, Set<String>> calls, List<String> path) {
+        if (path.contains(method)) {
+            hold(false, "no method calls itself: " + path + " " + method);
+            return 0;
+        }
+        path.add(method);
+        int deepest = 0;
+        for (String called : calls.get(method)) {
+            deepest = Math.max(deepest, callsDeep(called, calls, path));
+        }
+        path.remove(method);
+        return deepest + 1;
+    }
+
+    private static void checkCalls(Map<String, String> bodies) {
+        Map<String, Set<String>> calls = new HashMap<>();
+        bodies.forEach((method, body) -> {
+            calls.put(method, callsIn(body, bodies.keySet()));
+            Matcher call = CALL.matcher(body);
+            while (call.find()) {
+                if (bodies.containsKey(call.group(1))) {
+                    hold(callsIn(arguments(body, call.end()), bodies.keySet()).isEmpty(),
+                            "no call stands inside the arguments of " + call.group(1) + " in " + method);
+                }
+            }
+        });
+        for (String method : bodies.keySet()) {
+            int deep = callsDeep(method, calls, new ArrayList<>());
+            hold(deep <= MOST_CALLS_DEEP, "calls go at most six deep: " + method + " " + deep);
+        }
     }
 
     public static void main(String[] args) throws IOException, IllegalAccessException {
         checkClass();
         checkMethods();
         checkFields();
-        checkText();
+        String code = code();
+        checkWords(code);
+        checkLoops(code);
+        checkCalls(bodies(code));
         System.out.println(wrong == 0 ? "the face is as due" : wrong + " things do not hold");
         if (wrong != 0) {
             System.exit(1);

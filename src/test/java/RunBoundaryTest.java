@@ -252,6 +252,12 @@ public final class RunBoundaryTest extends BoundaryCases {
                 }
             });
         }
+        test("Promises 1 and 14: a new object: each procedure has the one statement number 0", x -> {
+            for (int p = 0; p <= 2; p++) {
+                due("begun 0", x.begun(p, 0), 0);
+                due("begun 1", x.begun(p, 1), BAD_ARG);
+            }
+        });
         test("Promise 14: 0 if there was no run", x -> {
             define(x, 0, seq(skip(), skip()));
             for (int number = 0; number < 3; number++) {
@@ -456,6 +462,19 @@ public final class RunBoundaryTest extends BoundaryCases {
             define(x, 0, call(1));
             due("run", x.run(0), THROWN);
             due("deepest", x.deepest(), 1);
+        });
+        test("Promise 17: in a TIRED run too, with a call that was begun in its last step", x -> {
+            define(x, 0, seq(loop(0, sub(0, 1)), call(1)));
+            load(x, 297, 1);
+            due("run", x.run(0), TIRED);
+            due("steps", x.steps(), 300);
+            due("begun of the called body", x.begun(1, 0), 0);
+            due("deepest", x.deepest(), 1);
+        });
+        test("Promise 17: in a DEEP run too, without the call that would have been the ninth", x -> {
+            define(x, 0, call(0));
+            due("run", x.run(0), DEEP);
+            due("deepest", x.deepest(), 8);
         });
         test("Promise 17: the last run, not an earlier one", x -> {
             nestedCalls(x, 9);

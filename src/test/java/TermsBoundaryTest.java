@@ -629,6 +629,12 @@ public final class TermsBoundaryTest extends BoundaryCases {
                 due("outs", x.outs(), 0);
             }
         });
+        test("Terms: TIRED: register r of catch has become v where B would be begun in the 301st step", x -> {
+            beginAt(x, 299, guard(2, raise(1), set(2, 9)));
+            due("run", x.run(0), TIRED);
+            due("begun of B", x.begun(0, BEHIND + 1), 0);
+            due("registers", registers(x), List.of(0, 1, 1, 0));
+        });
         test("Terms: TIRED: a THROWN run in its 300th step", x -> {
             beginAt(x, 300, raise(1));
             due("run", x.run(0), THROWN);
